@@ -1348,17 +1348,16 @@ public final class SilenceMatch {
             if (wide < 1) {
                 return 0;
             }
-            return Math.abs(here / wide - there / wide) + Math.abs(here % wide - there % wide);
+            int rows = here / wide - there / wide;
+            int columns = here % wide - there % wide;
+            return (rows < 0 ? -rows : rows) + (columns < 0 ? -columns : columns);
         }
 
-        boolean hears(int umpire, int place, int loudness) {
-            return loudness > 0 && loudness >= distance(post[umpire], place) + deaf[umpire];
-        }
-
+        /** UMPIRES who HEAR (II) a sound in no WIND, as bits. */
         int hearers(int place, int loudness) {
             int bits = 0;
             for (int u = 0; u < umpires; u++) {
-                if (hears(u, place, loudness)) {
+                if (loudness > 0 && loudness >= distance(post[u], place) + deaf[u]) {
                     bits |= 1 << u;
                 }
             }

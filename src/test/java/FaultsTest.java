@@ -43,6 +43,13 @@ final class FaultsTest {
         faulty(";", 1, 0);
         faulty("7", 1, 0);
         faulty("greens", 1, 0);
+        faulty("greenz", 1, 0);
+        faulty("agreen", 1, 0);
+        faulty("xreen wide", 1, 0);
+        faulty("greem wide", 1, 0);
+        faulty("gree wide", 1, 0);
+        faulty(HEAD + "xmpire", 1, 42);
+        faulty(HEAD + "umpirf", 1, 42);
         faulty("green", 1, 5);
         faulty("green \n ", 1, 8);
         faulty("green high", 1, 6);

@@ -129,9 +129,23 @@ final class PromisesTest {
         Check.tape(x, " \n  \n");
         due("blanks alone", x.green(), 0);
         due("no GREEN", x.wins(), -2);
-        due("no LINES", x.count(11), 0);
-        due("no wide", x.count(0), 0);
         due("no FAULT", x.fault(0), 0);
+        Check.tape(x, BASE);
+        due("green", x.green(), 10);
+        due("nothing on the TAPE", x.green(), 0);
+        for (int what = 0; what <= 13; what++) {
+            due("count without a GREEN", x.count(what), 0);
+        }
+        due("green of nothing", x.player(0, 0), -2);
+        Check.tape(x, BASE);
+        due("green", x.green(), 10);
+        Check.tape(x, "green wide 1 high 1 bell 20 laugh 0 odds 0;player on 0 at 0 loud 0 every 11;"
+                + "player on 0 at 0 loud 0 every 11;");
+        due("green", x.green(), 3);
+        due("other coughs", x.coughs(8), 0);
+        due("other coughs", x.coughs(11), 3);
+        due("no FRIENDS", x.player(1, 4), 0);
+        due("no FRIENDS", x.count(9), 0);
     }
 
     private static void things() {
@@ -279,6 +293,9 @@ final class PromisesTest {
                 + "player on 0 at 0 loud 0 every 4;umpire at 0 deaf 0;", 4);
         due("bells behind the bell", z.bells(0), 30);
         due("wins", z.wins(), -1);
+        SilenceMatch w = Check.green("green wide 1 high 1 bell 4 laugh 1 odds 1;player on 1 at 0 loud 9 every 30;"
+                + "player on 0 at 0 loud 0 every 4;umpire at 0 deaf 0;wind from 30 to 59;", 5);
+        due("bells in the last minute", w.bells(0), 60);
     }
 
     private static void runs() {
@@ -638,7 +655,9 @@ final class PromisesTest {
         SilenceMatch x = base();
         due("bell", x.bell(0), -2);
         due("bell", x.bell(61), -2);
-        due("bell", x.bell(8), 20);
+        due("bell", x.bell(1), 20);
+        due("calm", x.calm(), 1);
+        due("bell", x.bell(8), 1);
         due("count", x.count(2), 8);
         due("out", x.out(0), 8);
         due("out behind the bell", x.out(1), -1);
@@ -711,6 +730,21 @@ final class PromisesTest {
         due("image", x.image(-1), -2);
         due("again", x.back(0), 0);
         due("out", x.out(2), 6);
+        // An IMAGE's acts are its own, whatever is done behind it.
+        x.anew();
+        x.lozenge(2, 12);
+        x.back(0);
+        due("undo", x.undo(), 0);
+        due("CELL as told", x.player(0, 1), 0);
+        due("loud as told", x.player(2, 2), 2);
+        x.lozenge(3, 4);
+        x.image(1);
+        x.undo();
+        x.move(0, 5);
+        x.back(1);
+        due("undo", x.undo(), 0);
+        due("loud as told", x.player(3, 2), 1);
+        due("CELL as told", x.player(0, 1), 0);
     }
 
     private static void rows() {
@@ -732,6 +766,11 @@ final class PromisesTest {
         due("row", x.row(0, 0, MIN), -3);
         due("fits, the row stayed", x.fits(0), 0);
         due("row", x.row(0, 0, 2), 0);
+        due("all are 0 anew", x.fits(0), 4);
+        x.write(0, 0, 1);
+        x.write(0, 1, 1);
+        due("written", x.fits(0), 63);
+        due("row", x.row(0, 1, 2), 0);
         due("all are 0 anew", x.fits(0), 4);
         for (int width = 0; width < 3; width++) {
             x.row(1, width, 2);
