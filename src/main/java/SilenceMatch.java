@@ -94,11 +94,11 @@ public final class SilenceMatch {
 
     public int green() {
         reader.readGreen(draft);
-        // The TAPE is empty then, by a FAULT too: what stays is all that was made of earlier TAPES.
-        tape.size = 0;
+        // By a FAULT all stays, the TAPE too: end() can cut it at the FAULT's place, and more be fed.
         if (reader.fault != 0) {
             return FAULTY;
         }
+        tape.size = 0;
         green.copyFrom(draft);
         acts.count = 0;
         match.learn(green);

@@ -16,8 +16,9 @@ final class Check {
         }
     }
 
-    /** Puts a text on the TAPE, which must be empty. */
+    /** Puts a text behind the TAPE. */
     static void tape(SilenceMatch x, String text) {
+        int before = x.count(12);
         byte[] bytes = new byte[(text.length() + 19) / 20 * 20];
         for (int i = 0; i < text.length(); i++) {
             bytes[i] = (byte) text.charAt(i);
@@ -26,7 +27,7 @@ final class Check {
             x.feed(number(bytes, i), number(bytes, i + 4), number(bytes, i + 8), number(bytes, i + 12),
                     number(bytes, i + 16));
         }
-        x.end(text.length());
+        x.end(before + text.length());
     }
 
     static int number(byte[] bytes, int at) {

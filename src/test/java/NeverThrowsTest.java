@@ -35,6 +35,7 @@ final class NeverThrowsTest {
         int calls = 0;
         while (calls < 512) {
             if (random.nextInt(40) == 0 && calls < 450) {
+                x.end(0);
                 Check.tape(x, text(random));
                 sum = 31 * sum + x.green();
                 calls += 40;

@@ -116,8 +116,22 @@ final class PromisesTest {
         due("the GREEN stays", x.count(0), 3);
         due("acts stay", x.count(10), 1);
         due("LINES stay", x.count(11), 10);
-        // The reading of promise 4 that is taken here: the TAPE is empty after any green().
-        due("the TAPE is read", x.count(12), 0);
+        due("the TAPE stays", x.count(12), 13);
+        due("the same FAULT again", x.green(), -4);
+        due("fault(1)", x.fault(1), 11);
+        due("cut at the FAULT", x.end(11), 11);
+        due("the rest of it, behind what stayed", x.feed(0x35206869, 0x67682038, 0, 0, 0), 31);
+        due("a FAULT behind it", x.green(), -4);
+        due("fault(0)", x.fault(0), 2);
+        due("fault(1)", x.fault(1), 18);
+        due("end", x.end(18), 18);
+        Check.tape(x, "1 bell 1 laugh 0 odds 0;");
+        due("mended", x.green(), 1);
+        due("wide", x.count(0), 5);
+        due("empty then", x.count(12), 0);
+        Check.tape(x, BASE);
+        x.green();
+        x.move(0, 3);
         Check.tape(x, "green wide 1 high 1 bell 1 laugh 0 odds 0;");
         due("green in place of another", x.green(), 1);
         due("nothing done", x.count(10), 0);
