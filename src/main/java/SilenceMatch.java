@@ -470,7 +470,6 @@ public final class SilenceMatch {
             return ABSENT;
         }
         trial.copyFrom(green);
-        // A lesser loud isn't always safer: others may be OUT, and laugh, at other minutes.
         for (int loud = LOUDEST; loud >= 0; loud--) {
             trial.loud[player] = loud;
             match.play(trial, green.bell);
