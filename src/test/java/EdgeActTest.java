@@ -31,6 +31,7 @@ final class EdgeActTest {
         p66images();
         p66keepsGreenAndActs();
         p66noGreen();
+        p66allThree();
         p66again();
         p67images();
         p67nothing();
@@ -356,6 +357,26 @@ final class EdgeActTest {
             due("count " + what, x.count(what), 0);
         }
         due("no acts", x.undo(), -2);
+    }
+
+    /** 66: all three IMAGES, each of its own */
+    private static void p66allThree() {
+        SilenceMatch x = Texts.made(Texts.TINY);
+        due("image", x.image(0), 0);
+        Texts.load(x, Texts.BASE);
+        x.move(0, 5);
+        due("image", x.image(1), 0);
+        Texts.load(x, Texts.FULL);
+        fortyActs(x);
+        due("image", x.image(2), 0);
+        x.green();
+        int[] lines = {1, 10, 25};
+        int[] acts = {0, 1, 40};
+        for (int k : new int[] {2, 0, 1, 1, 0, 2}) {
+            due("back", x.back(k), 0);
+            due("LINES of " + k, x.count(11), lines[k]);
+            due("acts of " + k, x.count(10), acts[k]);
+        }
     }
 
     /** 66: kept again, in place of what it kept */

@@ -16,6 +16,7 @@ final class EdgeSearchTest {
         p30firstOfSeveral();
         p30noGreen();
         p31pairs();
+        p31mostAbove();
         p31moreThanNow();
         p31firstOfSeveral();
         p31sides();
@@ -107,6 +108,19 @@ final class EdgeSearchTest {
         due("all in one CELL", y.swap(1), -1);
         SilenceMatch z = Texts.made(LINE + EAR + LOUD4 + Texts.player(1, 2, 1, 4).repeat(6) + Texts.player(0, 4, 0, 4));
         due("0 and 7", z.swap(0), 7);
+    }
+
+    /** 31: "bring its SCORE at the bell most above the other one's" */
+    private static void p31mostAbove() {
+        // 1 has a FRIEND of his own SIDE who laughs at him: to save 0 gains one, to save 1 gains two.
+        SilenceMatch x = Texts.made(Texts.head(5, 1, 9, 12, 1) + EAR + LOUD4 + LOUD4 + Texts.player(0, 4, 0, 30).repeat(2)
+                + Texts.friends(1, 3));
+        due("12 ahead of 02", x.swap(0), 12);
+        // 1 has two FRIENDS of the other SIDE: to save him gains one and loses two.
+        SilenceMatch y = Texts.made(Texts.head(5, 1, 9, 12, 1) + EAR + Texts.player(0, 4, 0, 30) + LOUD4
+                + Texts.player(1, 4, 0, 30).repeat(2) + Texts.friends(1, 2) + Texts.friends(3, 1));
+        due("01 gains less than it loses", y.swap(0), -1);
+        due("as it is", y.score(0, 9) - y.score(1, 9), 1);
     }
 
     /** 31: "if more than now", "NONE: none" */

@@ -28,7 +28,9 @@ final class EdgeTextTest {
         faultsOfOnePlaceTheLeast();
         faultsTheEndsPlace();
         faultsEveryTokenOfEveryLine();
+        faultsNotAsSaid();
         faultsTooMany();
+        upTo512calls();
         p01noGreen();
         p02howMany();
         p02highestFirst();
@@ -254,7 +256,7 @@ final class EdgeTextTest {
         faulty("green wide 3 high 2 bell 9 laugh 1 odds 1z;", 1, 41);
     }
 
-    /** TOKENS, byte by byte behind "wide 3": a blank parts, a digit goes on, all else can't stand there. */
+    /** TOKENS, byte by byte behind a number: a blank parts, a digit goes on, all else can't stand there. */
     private static void tokensEveryByte() {
         for (int sign = 0; sign < 256; sign++) {
             String text = "green wide 3" + (char) sign + "high 2 bell 9 laugh 1 odds 1;";
@@ -336,6 +338,49 @@ final class EdgeTextTest {
             text += token;
         }
         Texts.made(text);
+    }
+
+    /** FAULTS: "2 a number out of its bounds, not as said" */
+    private static void faultsNotAsSaid() {
+        // Out of bounds, a last minute less than the first, a PLAYER not told ahead, one twice: all at the number.
+        faulty("green wide 0", 2, 11);
+        faulty("green wide 6 high 1 bell 1 laugh 0 odds 0;", 2, 11);
+        faulty(HEAD + "wind from 5 to 4;", 2, 42 + 15);
+        faulty(HEAD + PLAYER + "friends 0 7;", 2, 74 + 10);
+        faulty(HEAD + PLAYER + "friends 0 0;", 2, 74 + 10);
+        // A CELL of another GREEN: what was read ahead of a FAULT, or of another text, does not count.
+        SilenceMatch x = Texts.made(Texts.FULL);
+        Check.tape(x, HEAD + "umpire at 6 deaf 0;");
+        due("6 is no CELL here", x.green(), -4);
+        due("2", x.fault(0), 2);
+        due("its place", x.fault(1), 42 + 10);
+        x.end(0);
+        Check.tape(x, HEAD + "friends 0 1;");
+        due("no PLAYERS here", x.green(), -4);
+        due("2", x.fault(0), 2);
+        due("its place", x.fault(1), 42 + 8);
+    }
+
+    private static void due(String what, long got, long want) {
+        Check.due(what, got, want);
+    }
+
+    /** "An object is used for at most 512 calls after it has been made": the last of them answers as the first */
+    private static void upTo512calls() {
+        SilenceMatch x = new SilenceMatch();
+        Check.tape(x, Texts.BASE);
+        due("green", x.green(), 10);
+        int calls = 1 + (Texts.BASE.length() + 19) / 20 + 1 + 1;
+        while (calls < 510) {
+            due("move", x.move(0, 5), 0);
+            due("undo", x.undo(), 0);
+            calls += 2;
+        }
+        while (calls < 511) {
+            due("OUT", x.out(3), 10);
+            calls++;
+        }
+        due("the 512th", x.out(0), 8);
     }
 
     /** FAULTS: "3 a 9th player, 5th umpire, 4th wind, 10th friends, at its word" */
