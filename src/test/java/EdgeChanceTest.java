@@ -294,6 +294,7 @@ final class EdgeChanceTest {
         due("1, 2 and 3 do not cough", one(19, 0, 5, lines).surest(0), 1);
         due("all 1", one(60, 0, 0, lines).surest(0), 0);
         due("all 0", one(60, 0, 10, lines).surest(0), 0);
+        due("0 by three coughs and by one", one(30, 0, 10, Texts.player(0, 0, 1, 10) + Texts.player(0, 0, 1, 20)).surest(0), 0);
         due("0 and 1", one(29, 0, 10, lines).surest(0), 2);
         due("the last of eight", one(60, 0, 5, LOUD4.repeat(7) + Texts.player(0, 0, 0, 4)).surest(0), 7);
         due("1 against nearly 1", one(60, 0, 1, Texts.player(0, 0, 1, 30) + MUTE).surest(0), 1);
@@ -329,6 +330,8 @@ final class EdgeChanceTest {
         due("91", y.sure(0, 91), 3);
         due("81, just so", y.sure(0, 81), 11);
         due("82", y.sure(0, 82), 7);
+        due("72, below 72.9", y.sure(0, 72), 15);
+        due("73", y.sure(0, 73), 11);
         due("20: 9 to the 15th", y.sure(0, 20), 60);
         due("21", y.sure(0, 21), 59);
     }

@@ -146,6 +146,12 @@ final class EdgeMatchTest {
         due("the second UMPIRE HEARS it", cough.finger(1), 1);
         SilenceMatch laughter = Texts.made(head + Texts.player(0, 0, 1, 5) + Texts.friends(0, 1));
         due("the laughter alone", laughter.out(1), 5);
+        // The other way round: the cough is heard by UMPIRE 0 too, the laughter by UMPIRE 1 alone.
+        SilenceMatch turned = Texts.made(head.replace("laugh 3", "laugh 2") + Texts.player(0, 0, 3, 5) + Texts.friends(0, 1));
+        due("the first UMPIRE HEARS the cough", turned.finger(1), 0);
+        SilenceMatch later = Texts.made(head.replace("laugh 3", "laugh 2") + Texts.player(0, 0, 3, 6) + Texts.friends(0, 1));
+        due("he does not cough in that minute", later.out(1), 5);
+        due("the second UMPIRE HEARS the laughter", later.finger(1), 1);
         SilenceMatch neither = Texts.made(head + Texts.player(0, 0, 1, 5));
         due("neither", neither.out(1), -1);
     }

@@ -77,6 +77,14 @@ final class EdgeSearchTest {
         SilenceMatch x = Texts.made(LINE + Texts.umpire(0, 0) + Texts.umpire(4, 0) + LOUD4
                 + Texts.player(0, 4, 1, 4).repeat(2));
         due("without the second fewer than without the first", x.fire(), 1);
+        // Without UMPIRE 0 one less is OUT, without UMPIRE 1 two less are: nobody laughs then.
+        SilenceMatch y = Texts.made(Texts.head(5, 1, 9, 12, 1) + Texts.umpire(4, 0) + Texts.umpire(0, 0)
+                + Texts.player(0, 4, 1, 4) + LOUD4 + MUTE + Texts.friends(1, 2));
+        due("laughter counts", y.fire(), 1);
+        // UMPIRES 0 and 1 HEAR the cough, either; UMPIRE 2 alone HEARS the laughter at it.
+        SilenceMatch z = Texts.made(Texts.head(5, 1, 9, 4, 1) + Texts.umpire(0, 7).repeat(2) + Texts.umpire(4, 4)
+                + Texts.player(0, 0, 7, 4) + Texts.player(0, 4, 0, 30) + Texts.friends(0, 1));
+        due("who HEARS laughter alone", z.fire(), 2);
     }
 
     /** 30: "if fewer than now", "NONE: none" */
@@ -213,6 +221,8 @@ final class EdgeSearchTest {
         due("OUT alike in all", Texts.made(WIDEST + EAR + Texts.player(0, 9, 7, 4)).place(0), 0);
         due("never in all", Texts.made(WIDEST + Texts.player(0, 9, 7, 4)).place(0), 0);
         due("never in some", Texts.made(LINE + EAR + Texts.player(0, 0, 2, 4)).place(0), 3);
+        due("none but the one CELL", one(9, 0, Texts.umpire(0, 5) + Texts.player(0, 0, 5, 4)).place(0), 0);
+        due("none but the one CELL", one(9, 0, Texts.umpire(0, 5) + Texts.player(0, 0, 5, 4)).lasts(0), 4);
     }
 
     /** 34: "-2 likewise" */
@@ -244,6 +254,8 @@ final class EdgeSearchTest {
         due("all alike", Texts.made(WIDEST + LOUD4).best(0), 0);
         due("the last alone", Texts.made(WIDEST + EAR + Texts.player(0, 0, 6, 4)).best(0), 19);
         due("some alike", Texts.made(LINE + EAR + Texts.player(0, 0, 2, 4)).best(0), 3);
+        due("none but the one CELL", one(9, 0, Texts.umpire(0, 5) + Texts.player(0, 0, 5, 4)).best(0), 0);
+        due("none but the one CELL", one(9, 0, Texts.umpire(0, 5) + Texts.player(0, 0, 5, 4)).gains(0), 0);
         // 0 is heard near the UMPIRE; then both of the other SIDE laugh and are OUT: 0 : 0, else 1 : 2.
         SilenceMatch x = Texts.made(Texts.head(5, 1, 9, 4, 1) + EAR + Texts.player(0, 4, 1, 4)
                 + Texts.player(1, 0, 0, 30).repeat(2) + Texts.friends(0, 1) + Texts.friends(0, 2));

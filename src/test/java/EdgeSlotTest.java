@@ -239,6 +239,9 @@ final class EdgeSlotTest {
                 1 << 19 | 1 << 18 | 1 << 17 | 1 << 16 | 1 << 14 | 1 << 13 | 1 << 12 | 1 << 9 | 1 << 8 | 1 << 4);
         Slots.row(x, 0, 0, 0, 1, 0, 0);
         due("none", x.spots(0), 0);
+        SilenceMatch y = Texts.made(Texts.TINY + Texts.umpire(0, 2));
+        Slots.row(y, 0, 0, 0, 0);
+        due("by a loudness of 1 alone", y.spots(0), 1);
     }
 
     /** 47: "-2, -6 likewise" */

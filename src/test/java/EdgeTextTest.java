@@ -335,9 +335,25 @@ final class EdgeTextTest {
                     faulty(text + other, 1, text.length());
                 }
             }
+            if (Character.isLetter(token.charAt(0))) {
+                everyLetter(text, token);
+            }
             text += token;
         }
         Texts.made(text);
+    }
+
+    /** A word with a letter changed, left out or put to it is another one. */
+    private static void everyLetter(String ahead, String word) {
+        for (int i = 0; i < word.length(); i++) {
+            String begin = word.substring(0, i);
+            String end = word.substring(i + 1);
+            faulty(ahead + begin + (char) (word.charAt(i) + 1) + end, 1, ahead.length());
+            faulty(ahead + begin + end, 1, ahead.length());
+            faulty(ahead + begin + "z" + word.substring(i), 1, ahead.length());
+        }
+        faulty(ahead + word + "a", 1, ahead.length());
+        faulty(ahead + word + "z", 1, ahead.length());
     }
 
     /** FAULTS: "2 a number out of its bounds, not as said" */
@@ -538,6 +554,10 @@ final class EdgeTextTest {
         Check.due("no UMPIRE", x.umpire(0, 0), -2);
         Check.due("no WIND", x.wind(1), 0);
         Check.due("no cough", x.coughs(1), 0);
+        x.bell(60);
+        for (int minute = 1; minute <= 60; minute++) {
+            Check.due("no cough", x.coughs(minute), 0);
+        }
         Texts.load(x, Texts.FULL);
         Check.due("OUT", x.out(7), 5);
         Texts.load(x, HEAD + PLAYER);
