@@ -10,7 +10,7 @@ final class AgainstPlainTest {
 
     public static void main(String[] args) {
         for (int round = 0; round < 400; round++) {
-            PlainMatch plain = randomGreen();
+            PlainMatch plain = randomGreen(RANDOM);
             String text = plain.text();
             int acts = round % 3 == 0 ? RANDOM.nextInt(5) : 0;
             long actSeed = RANDOM.nextLong();
@@ -30,33 +30,38 @@ final class AgainstPlainTest {
     }
 
     private static int upTo(int most) {
-        return RANDOM.nextInt(most + 1);
+        return upTo(RANDOM, most);
     }
 
-    private static PlainMatch randomGreen() {
+    private static int upTo(Random random, int most) {
+        return random.nextInt(most + 1);
+    }
+
+    static PlainMatch randomGreen(Random random) {
         PlainMatch g = new PlainMatch();
-        g.wide = 1 + upTo(4);
-        g.high = 1 + upTo(3);
-        g.bell = 1 + upTo(59);
-        g.laugh = upTo(12);
-        g.odds = upTo(10);
-        int players = upTo(8);
+        g.wide = 1 + upTo(random, 4);
+        g.high = 1 + upTo(random, 3);
+        g.bell = 1 + upTo(random, 59);
+        g.laugh = upTo(random, 12);
+        g.odds = upTo(random, 10);
+        int players = upTo(random, 8);
         for (int p = 0; p < players; p++) {
-            g.players.add(new int[] {upTo(1), upTo(g.cells() - 1), upTo(RANDOM.nextBoolean() ? 3 : 12), 4 + upTo(26)});
+            int loudest = random.nextBoolean() ? 3 : 12;
+            g.players.add(new int[] {upTo(random, 1), upTo(random, g.cells() - 1), upTo(random, loudest), 4 + upTo(random, 26)});
         }
-        int umpires = RANDOM.nextInt(8) == 0 ? 0 : 1 + upTo(3);
+        int umpires = random.nextInt(8) == 0 ? 0 : 1 + upTo(random, 3);
         for (int u = 0; u < umpires; u++) {
-            g.umpires.add(new int[] {upTo(g.cells() - 1), upTo(RANDOM.nextBoolean() ? 2 : 9)});
+            g.umpires.add(new int[] {upTo(random, g.cells() - 1), upTo(random, random.nextBoolean() ? 2 : 9)});
         }
-        int winds = upTo(3);
+        int winds = upTo(random, 3);
         for (int w = 0; w < winds; w++) {
-            int from = 1 + upTo(59);
-            g.winds.add(new int[] {from, Math.min(60, from + upTo(8))});
+            int from = 1 + upTo(random, 59);
+            g.winds.add(new int[] {from, Math.min(60, from + upTo(random, 8))});
         }
-        int friends = players < 2 ? 0 : upTo(9);
+        int friends = players < 2 ? 0 : upTo(random, 9);
         for (int f = 0; f < friends; f++) {
-            int one = upTo(players - 1);
-            g.friends.add(new int[] {one, (one + 1 + upTo(players - 2)) % players});
+            int one = upTo(random, players - 1);
+            g.friends.add(new int[] {one, (one + 1 + upTo(random, players - 2)) % players});
         }
         return g;
     }
