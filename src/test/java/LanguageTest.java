@@ -5,7 +5,9 @@ import java.lang.reflect.Method;
 import java.lang.reflect.Modifier;
 import java.nio.file.Files;
 import java.nio.file.Path;
+import java.util.Map;
 import java.util.Set;
+import java.util.TreeMap;
 import java.util.TreeSet;
 import java.util.regex.Matcher;
 import java.util.regex.Pattern;
@@ -23,6 +25,8 @@ final class LanguageTest {
         face();
         insides();
         methodLengths(code);
+        callDepth(code);
+        nothingIsMadeLater(code);
         Check.finish("LanguageTest");
     }
 
@@ -61,6 +65,7 @@ final class LanguageTest {
         for (Class<?> inside : SilenceMatch.class.getDeclaredClasses()) {
             for (Method m : inside.getDeclaredMethods()) {
                 hidden.add(m.getName());
+                Check.due("at most seven parameters: " + m, m.getParameterCount() <= 7 ? 1 : 0, 1);
             }
         }
         hidden.retainAll(open);
@@ -86,6 +91,49 @@ final class LanguageTest {
                 fields += constant ? 0 : 1;
             }
             Check.due("at most twenty fields: " + c, fields <= 20 ? 1 : 0, 1);
+        }
+    }
+
+    /** By names alone: two methods of one name count as one, which can only make it deeper. */
+    private static void callDepth(String code) {
+        Map<String, Set<String>> calls = new TreeMap<>();
+        Matcher m = Pattern.compile("(?ms)^( +)[^\\n=;]*?(\\w+)\\([^()]*\\) \\{\\n(.*?)^\\1\\}").matcher(code);
+        while (m.find()) {
+            Set<String> called = calls.computeIfAbsent(m.group(2), name -> new TreeSet<>());
+            Matcher call = Pattern.compile("\\b(\\w+)\\(").matcher(m.group(3));
+            while (call.find()) {
+                called.add(call.group(1));
+            }
+        }
+        int deepest = 0;
+        for (String name : calls.keySet()) {
+            deepest = Math.max(deepest, depth(name, calls, new TreeSet<>()));
+        }
+        Check.due("methods found", calls.size() > 120 ? 1 : 0, 1);
+        Check.due("calls at most eight deep, not " + deepest, deepest <= 8 ? 1 : 0, 1);
+    }
+
+    private static int depth(String name, Map<String, Set<String>> calls, Set<String> open) {
+        // Recursion (of Cover alone) is counted once: its depth is bounded by the CELLS.
+        if (!calls.containsKey(name) || !open.add(name)) {
+            return 0;
+        }
+        int deepest = 0;
+        for (String called : calls.get(name)) {
+            deepest = Math.max(deepest, depth(called, calls, open));
+        }
+        open.remove(name);
+        return deepest + 1;
+    }
+
+    /** So that what a run makes does not grow with its calls: all rows are made with the object. */
+    private static void nothingIsMadeLater(String code) {
+        int start = code.indexOf("public SilenceMatch() {");
+        int end = code.indexOf("\n    }\n", start);
+        String rest = code.substring(0, start) + code.substring(end);
+        for (String line : rest.split("\n")) {
+            boolean field = line.matches(" +(private )?final [\\w\\[\\]]+ \\w+ = new .*;");
+            Check.due("made outside of a constructor: " + line, line.contains("new ") && !field ? 1 : 0, 0);
         }
     }
 

@@ -95,8 +95,13 @@ final class WholeRunsTest {
         }
         done.add(name + Arrays.toString(arguments));
         long got = ((Number) m.invoke(x, boxed)).longValue();
-        String told = done.size() + " calls, at last " + done.subList(Math.max(0, done.size() - 4), done.size());
-        Check.due(told + " on " + (plain.green() == null ? "none" : plain.green().text()), got, plain.answer(name, arguments));
+        long want = plain.answer(name, arguments);
+        Check.due(got == want ? name : lastCalls(), got, want);
+    }
+
+    private String lastCalls() {
+        return done.size() + " calls, at last " + done.subList(Math.max(0, done.size() - 4), done.size()) + ", now on "
+                + (plain.green() == null ? "no green" : plain.green().text());
     }
 
     private void call(String told) throws ReflectiveOperationException {
